@@ -21,8 +21,10 @@ public final class OneSelf {
     private static final int CHECKS = 40, BOUND_LINKS = 60, CUT_ROWS = 12, LAID_ROWS = 10;
     private static final int ALL_KEYS = 63;
 
-    // -2 can be a score or points, so these calls tell BAD by a number that never is one
+    // -2 can be a score, points or an item, so these calls tell BAD by a number of their own
     private static final int BAD_POINTS = -1000;
+    private static final int LEAST_INT = 1 << 31;
+    private static final long LEAST_LONG = 1L << 63;
 
     // what about() tells of a row; YEAR, PLACE and SORT are the numbers of these fields, too
     private static final int REGISTER = 0, YEAR = 1, PLACE = 2, SORT = 3;
@@ -214,7 +216,7 @@ public final class OneSelf {
 
     public long odds(int a, int b, int what) {
         if (!rows.arePair(a, b) || !isBelow(what, 2)) {
-            return Long.MIN_VALUE;
+            return LEAST_LONG;
         }
         long above = pairs.chancesOf(a, b, true);
         long below = pairs.chancesOf(a, b, false);
@@ -356,7 +358,7 @@ public final class OneSelf {
         }
         int seen = checks.countLinks(pairs, false);
         int wrong = checks.countLinks(pairs, true);
-        return end == 0 ? Bound.least(all, seen, wrong) : Bound.greatest(all, seen, wrong);
+        return end == 0 ? Checks.leastFalse(all, seen, wrong) : Checks.mostFalse(all, seen, wrong);
     }
 
     public int learnt(boolean one, int field, int level) {
@@ -438,12 +440,12 @@ public final class OneSelf {
 
     public int get(int s, int type, int i) {
         if (!Sheets.isSheet(s) || !Sheets.isType(type)) {
-            return Integer.MIN_VALUE;
+            return LEAST_INT;
         }
         int finding = sheets.hindrance(s, type, i);
         if (finding != 0) {
             sheets.find(finding);
-            return Integer.MIN_VALUE;
+            return LEAST_INT;
         }
         return sheets.itemAt(s, i);
     }
@@ -902,7 +904,7 @@ public final class OneSelf {
                 return false;
             }
             for (int i = 0; i < lengths[a]; i++) {
-                if (signAt(a, i) != signAt(b, i)) {
+                if (signs[a * LETTERS + i] != signs[b * LETTERS + i]) {
                     return false;
                 }
             }
@@ -990,7 +992,8 @@ public final class OneSelf {
 
         int levelOf(int a, int b, int field) {
             if (field == NAME) {
-                return nameLevel(a, b);
+                int n = slips.between(a, b);
+                return n <= 2 ? n : sounds.areAlike(a, b) ? 2 : 3;
             }
             int x = rows.fact(a, field);
             int y = rows.fact(b, field);
@@ -1009,14 +1012,6 @@ public final class OneSelf {
                 return way <= 5 ? 1 : way <= 20 ? 2 : 3;
             }
             return 3;
-        }
-
-        private int nameLevel(int a, int b) {
-            int n = slips.between(a, b);
-            if (n <= 2) {
-                return n;
-            }
-            return sounds.areAlike(a, b) ? 2 : 3;
         }
 
         int scoreOf(int a, int b) {
@@ -1050,11 +1045,14 @@ public final class OneSelf {
                 divisor = rest;
                 rest = next;
             }
-            return divisor;
+            return Math.max(1, divisor);
         }
 
         // figure by figure, because a million times the part goes beyond the longs
         static int millionths(long part, long whole) {
+            if (whole < 1) {
+                return 0;
+            }
             int answer = 0;
             long rest = part;
             for (int figure = 0; figure < 6; figure++) {
@@ -1341,7 +1339,7 @@ public final class OneSelf {
             cameFrom[start] = start;
             reached[0] = start;
             int known = 1;
-            for (int k = 0; k < known; k++) {
+            for (int k = 0; k < known && k < many; k++) {
                 int i = reached[k];
                 for (int j = 0; j < many; j++) {
                     if (cameFrom[j] == NONE && room[i * CUT_ROWS + j] > 0) {
@@ -1365,8 +1363,10 @@ public final class OneSelf {
         }
     }
 
-    /** The CHECKED pairs, the lesser row first in each. */
+    /** The CHECKED pairs, the lesser row first in each, and how many false links they bound. */
     private static final class Checks {
+        private static final long FORTIETH = 40;
+
         private final int[] firsts = new int[CHECKS];
         private final int[] seconds = new int[CHECKS];
         private final boolean[] ones = new boolean[CHECKS];
@@ -1435,16 +1435,8 @@ public final class OneSelf {
             int nearest = whole < 1 ? 0 : (2000 * part + whole) / (2 * whole);
             return Math.max(1, nearest);
         }
-    }
 
-    /** How many of all links may be false, when some were checked. */
-    private static final class Bound {
-        private static final long FORTIETH = 40;
-
-        private Bound() {
-        }
-
-        static int least(int all, int seen, int wrong) {
+        static int leastFalse(int all, int seen, int wrong) {
             int k = 0;
             while (k < all && !isLikely(all, seen, wrong, k)) {
                 k++;
@@ -1452,7 +1444,7 @@ public final class OneSelf {
             return k;
         }
 
-        static int greatest(int all, int seen, int wrong) {
+        static int mostFalse(int all, int seen, int wrong) {
             int k = all;
             while (k > 0 && !isLikely(all, seen, wrong, k)) {
                 k--;
@@ -1479,7 +1471,7 @@ public final class OneSelf {
         }
 
         private static long waysToChoose(int n, int some) {
-            if (some < 0 || some > n) {
+            if (some > n) {
                 return 0;
             }
             int least = Math.min(some, n - some);
