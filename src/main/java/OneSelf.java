@@ -29,6 +29,8 @@ public final class OneSelf {
     // what about() tells of a row; YEAR, PLACE and SORT are the numbers of these fields, too
     private static final int REGISTER = 0, YEAR = 1, PLACE = 2, SORT = 3;
     private static final int LENGTH = 4, TOLD = 5, TAKEN = 6, KNOWN = 7;
+    // all but KNOWN are kept: that one changes with the days
+    private static final int FACTS = 7;
     private static final int NAME = 0;
 
     private final Sheets sheets;
@@ -73,10 +75,10 @@ public final class OneSelf {
             return BAD;
         }
         if (sheets.isLost(s)) {
-            return sheets.find(NULL);
+            return sheets.noteFinding(NULL);
         }
         if (!sheets.hasItems(s, i, n)) {
-            return sheets.find(INDEX);
+            return sheets.noteFinding(INDEX);
         }
         if (!sheets.areLetters(s, i, n)) {
             return NOT;
@@ -366,14 +368,10 @@ public final class OneSelf {
             return BAD;
         }
         int all = 0;
-        int some = 0;
         for (int each = 0; each < LEVELS; each++) {
-            int counted = checks.countLevel(pairs, one, field, each);
-            all += counted;
-            if (each == level) {
-                some = counted;
-            }
+            all += checks.countLevel(pairs, one, field, each);
         }
+        int some = checks.countLevel(pairs, one, field, level);
         return Checks.thousandths(some + 1, all + LEVELS);
     }
 
@@ -410,7 +408,7 @@ public final class OneSelf {
             return BAD;
         }
         if (n < 0) {
-            return sheets.find(SIZE);
+            return sheets.noteFinding(SIZE);
         }
         sheets.renew(s, type, n);
         return n;
@@ -421,7 +419,7 @@ public final class OneSelf {
             return BAD;
         }
         if (sheets.isLost(s)) {
-            return sheets.find(NULL);
+            return sheets.noteFinding(NULL);
         }
         return sheets.forget(s);
     }
@@ -432,7 +430,7 @@ public final class OneSelf {
         }
         int finding = sheets.hindrance(s, type, i);
         if (finding != 0) {
-            return sheets.find(finding);
+            return sheets.noteFinding(finding);
         }
         sheets.setItem(s, i, v);
         return 1;
@@ -444,7 +442,7 @@ public final class OneSelf {
         }
         int finding = sheets.hindrance(s, type, i);
         if (finding != 0) {
-            sheets.find(finding);
+            sheets.noteFinding(finding);
             return LEAST_INT;
         }
         return sheets.itemAt(s, i);
@@ -455,13 +453,13 @@ public final class OneSelf {
             return BAD;
         }
         if (sheets.isLost(s) || sheets.isLost(t)) {
-            return sheets.find(NULL);
+            return sheets.noteFinding(NULL);
         }
         if (!sheets.areOfOneType(s, t)) {
-            return sheets.find(STORE);
+            return sheets.noteFinding(STORE);
         }
         if (!sheets.hasItems(s, i, n) || !sheets.hasItems(t, j, n)) {
-            return sheets.find(INDEX);
+            return sheets.noteFinding(INDEX);
         }
         sheets.moveItems(s, i, t, j, n);
         return 1;
@@ -472,7 +470,7 @@ public final class OneSelf {
             return BAD;
         }
         if (sheets.isLost(s)) {
-            return sheets.find(NULL);
+            return sheets.noteFinding(NULL);
         }
         int n = Math.min(sounds.lengthOf(row), sheets.sizeOf(s));
         for (int i = 0; i < n; i++) {
@@ -606,7 +604,7 @@ public final class OneSelf {
             return isBelow(i, sizes[s]) ? 0 : INDEX;
         }
 
-        int find(int finding) {
+        int noteFinding(int finding) {
             latest = finding;
             return -10 - finding;
         }
@@ -645,7 +643,7 @@ public final class OneSelf {
 
     /** The ROWS, and the days as of which they are known. */
     private static final class Rows {
-        private final int[] facts = new int[ROWS * KNOWN];
+        private final int[] facts = new int[ROWS * FACTS];
         private final int[] letters = new int[ROWS * LETTERS];
         private int many;
         private int day;
@@ -660,7 +658,7 @@ public final class OneSelf {
         }
 
         void add(int register, int year, int place, int sort) {
-            int at = many * KNOWN;
+            int at = many * FACTS;
             facts[at + REGISTER] = register;
             facts[at + YEAR] = year;
             facts[at + PLACE] = place;
@@ -675,16 +673,16 @@ public final class OneSelf {
             int length = fact(row, LENGTH);
             if (length < LETTERS) {
                 letters[row * LETTERS + length] = letter;
-                facts[row * KNOWN + LENGTH] = length + 1;
+                facts[row * FACTS + LENGTH] = length + 1;
             }
         }
 
         void takeAway(int row) {
-            facts[row * KNOWN + TAKEN] = day;
+            facts[row * FACTS + TAKEN] = day;
         }
 
         int fact(int row, int what) {
-            return facts[row * KNOWN + what];
+            return facts[row * FACTS + what];
         }
 
         int letterAt(int row, int i) {
