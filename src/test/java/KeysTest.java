@@ -171,6 +171,8 @@ public final class KeysTest {
         d.row(1, "anna", 1800, 1, 0);
         d.x.check(0, 1, true);
         due.is("each key does: the least as bits", d.x.keys(), 1);
+        d.x.check(0, 1, false);
+        due.is("it is asked anew each time", d.x.keys(), 0);
         Desk e = new Desk();
         // place does for both; first letter and year do, too: three pairs each way
         e.row(0, "aab", 1800, 1, NONE);
@@ -186,8 +188,18 @@ public final class KeysTest {
         f.row(1, "axy", NONE, NONE, 1);
         f.x.check(1, 0, true);
         due.is("first letter rather than first letter and sort", f.x.keys(), 2);
-        f.row(2, "auu", NONE, NONE, 0);
-        due.is("first letter and sort, when it has fewer pairs", f.x.keys(), 32);
+        f.row(1, "auu", NONE, NONE, 0);
+        due.is("first letter and sort, when it has one pair less", f.x.keys(), 32);
+        Desk g = new Desk();
+        for (int k = 0; k < 36; k++) {
+            g.row(k % 2, "abc", 1800, 1, 1);
+        }
+        for (int k = 0; k < 40; k++) {
+            g.x.check(k % 18 * 2, 2 * (k / 18) + 1, true);
+        }
+        due.is("40 checks", g.x.count(6), 40);
+        due.is("keys() of 36 rows and 40 checks", g.x.keys(), 1);
+        due.is("pairs(1) of 36 rows", g.x.pairs(1), 18 * 18);
     }
 
     private static void keysThatCount() {

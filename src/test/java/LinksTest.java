@@ -10,10 +10,13 @@ public final class LinksTest {
         layLeastRows();
         layMoreForMore();
         layTenByTen();
+        layTenByTwo();
         laidRefused();
         bundle();
         torn();
         cut();
+        cutByWays();
+        cutOfRandomGraphs();
         cutRefused();
         cutOfTwelve();
         due.end();
@@ -198,6 +201,25 @@ public final class LinksTest {
         due.is("mate in an empty register", d.x.mate(3, 2), NONE);
     }
 
+    /** Rows without links must leave no trace in the laying, not even the last one. */
+    private static void layTenByTwo() {
+        Desk d = new Desk();
+        d.x.line(20);
+        for (int k = 0; k < 10; k++) {
+            d.row(0, ("" + (char) ('a' + k)).repeat(6));
+        }
+        d.row(1, "aaaaaa");
+        d.row(1, "cccccc");
+        due.is("ten by two", d.x.laid(0, 1, 0), 2);
+        due.is("ten by two: the sum", d.x.laid(0, 1, 1), 2);
+        for (int k = 0; k < 10; k++) {
+            due.is("ten by two: mate(" + k + ", 1)", d.x.mate(k, 1), k == 0 ? 10 : k == 2 ? 11 : NONE);
+        }
+        d.row(1, "jjjjjj");
+        due.is("the last row's mate", d.x.mate(9, 1), 12);
+        due.is("the last row's row", d.x.mate(12, 0), 9);
+    }
+
     private static void laidRefused() {
         Desk d = new Desk();
         int[][] bad = {{-1, 0, 0}, {3, 0, 0}, {0, -1, 0}, {0, 3, 0}, {1, 1, 0}, {0, 1, -1}, {0, 1, 2}};
@@ -306,6 +328,13 @@ public final class LinksTest {
         due.is("torn of a row taken back", d.x.torn(6), NOT);
         due.is("torn(9)", d.x.torn(9), BAD);
         due.is("torn(-1)", d.x.torn(-1), BAD);
+        Desk f = new Desk();
+        f.x.line(20);
+        f.row(0, "aaaa", NONE, NONE, 1);
+        f.row(1, "aaaa", NONE, NONE, NONE);
+        due.is("sort 1 and a sort missing", f.x.torn(0), 0);
+        f.row(2, "aaaa", NONE, NONE, 1);
+        due.is("sort 1 twice and a sort missing", f.x.torn(0), 0);
         // the ends of a chain are in it, too
         Desk e = new Desk();
         e.namesAlone();
@@ -338,7 +367,6 @@ public final class LinksTest {
         d.x.line(20);
         due.is("cut by more links", d.x.cut(0, 2), 4);
         due.is("cut(3, 1)", d.x.cut(3, 1), 2);
-        // a way that must be gone back: two bridges between two threes
         Desk e = new Desk();
         e.namesAlone();
         e.x.line(60);
@@ -349,6 +377,79 @@ public final class LinksTest {
         due.is("cut(0, 4)", e.x.cut(0, 4), 3);
         due.is("cut(3, 4)", e.x.cut(3, 4), 3);
         due.is("cut(0, 5)", e.x.cut(0, 5), 3);
+    }
+
+    /** One row at each of so many places; the rows of two places are linked if the pair stands in the text. */
+    private static Desk graph(int places, String links) {
+        Desk d = new Desk();
+        for (int field = 0; field < 4; field++) {
+            for (int level = 0; level < 4; level++) {
+                d.x.points(field, level, field == 2 && level == 1 ? 100 : 0);
+            }
+        }
+        d.x.line(100);
+        for (int place = 0; place < places; place++) {
+            d.row(place % 3, "a", NONE, place, NONE);
+        }
+        for (String link : links.split(" ")) {
+            if (!link.isEmpty()) d.x.way(link.charAt(0) - '0', link.charAt(1) - '0', 5);
+        }
+        return d;
+    }
+
+    /** The shortest way 0 1 2 3 uses a link of both others: it must be gone back. */
+    private static void cutByWays() {
+        Desk d = graph(8, "01 12 23 04 45 52 16 67 73");
+        due.is("links()", d.x.links(), 9);
+        due.is("one bundle", d.x.bundles(2), 8);
+        due.is("two ways that cross", d.x.cut(0, 3), 2);
+        due.is("two ways that cross, from behind", d.x.cut(3, 0), 2);
+        due.is("cut(1, 2)", d.x.cut(1, 2), 3);
+        due.is("cut(4, 7)", d.x.cut(4, 7), 2);
+        Desk ring = graph(8, "01 12 23 34 45 56 67 70");
+        due.is("a ring", ring.x.cut(2, 6), 2);
+        Desk bridge = graph(8, "01 12 20 23 34 45 53 56 67 75");
+        due.is("a bridge", bridge.x.cut(0, 7), 1);
+        due.is("before the bridge", bridge.x.cut(0, 1), 2);
+    }
+
+    /** Every side on which the one row may stand without the other is tried. */
+    private static int fewestLinks(boolean[][] linked, int a, int b) {
+        int best = Integer.MAX_VALUE;
+        for (int side = 0; side < 1 << linked.length; side++) {
+            if ((side >> a & 1) == 0 || (side >> b & 1) == 1) continue;
+            int n = 0;
+            for (int i = 0; i < linked.length; i++) {
+                for (int j = 0; j < linked.length; j++) {
+                    if (linked[i][j] && (side >> i & 1) == 1 && (side >> j & 1) == 0) n++;
+                }
+            }
+            best = Math.min(best, n);
+        }
+        return best;
+    }
+
+    private static void cutOfRandomGraphs() {
+        int state = 1;
+        for (int run = 0; run < 200; run++) {
+            StringBuilder links = new StringBuilder();
+            boolean[][] linked = new boolean[8][8];
+            for (int a = 0; a < 8; a++) {
+                for (int b = a + 1; b < 8; b++) {
+                    state = state * 1103515245 + 12345;
+                    if ((state >>> 16) % 10 < 3 + run % 4) {
+                        links.append((char) ('0' + a)).append((char) ('0' + b)).append(' ');
+                        linked[a][b] = true;
+                        linked[b][a] = true;
+                    }
+                }
+            }
+            Desk d = graph(8, links.toString());
+            for (int b = 1; b < 8; b++) {
+                int fewest = fewestLinks(linked, 0, b);
+                due.is("cut(0, " + b + ") of " + links, d.x.cut(0, b), fewest == 0 ? NOT : fewest);
+            }
+        }
     }
 
     private static void cutRefused() {

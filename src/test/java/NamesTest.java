@@ -67,6 +67,17 @@ public final class NamesTest {
             longest.append(c).append("=1;");
         }
         due.is("fault() of 80 bytes that end with ;", d.faultOf(longest.toString()), 80);
+        StringBuilder full = new StringBuilder("ab");
+        for (char c = 'c'; full.length() < 80; c++) {
+            full.append("=2;").append(c);
+        }
+        full.setLength(78);
+        full.append("=0");
+        due.is("fault() of 80 bytes that end well: " + full, d.faultOf(full.toString()), NONE);
+        due.is("they are 80", d.x.type('a'), FULL);
+        d.row(0, "zabczu");
+        due.isTrue("sounds by 80 bytes", d.soundOf(0).equals("z2z"));
+        due.is("wipe() of 80", d.x.wipe(), 80);
         longest.setLength(79);
         due.is("fault() of 79 bytes that end well", d.faultOf(longest.toString()), NONE);
     }
@@ -104,6 +115,7 @@ public final class NamesTest {
         due.is("behind the last sign", d.x.sound(8, 3), NONE);
         d.x.type(';');
         due.is("a byte more makes a fault", d.x.sound(8, 1), 'b');
+        d.x.wipe();
         d.row(0, "abcdefghij");
         due.is("the tenth sign", d.x.sound(9, 9), 'j');
         due.is("the eleventh", d.x.sound(9, 10), NONE);
@@ -141,6 +153,13 @@ public final class NamesTest {
             due.is("slips of " + p[0] + " with itself", d.x.slips(0, 0), 0);
             d.x.takeBack(1);
             due.is("slips of a row taken back", d.x.slips(0, 1), (Integer) p[2]);
+        }
+        for (Object[] p : pairs) {
+            Desk d = new Desk();
+            d.row(0, "qqqqqqqqqq");
+            d.row(0, (String) p[1]);
+            d.row(0, (String) p[0]);
+            due.is("slips of " + p[1] + ", " + p[0] + ", told in that order", d.x.slips(1, 2), (Integer) p[2]);
         }
         Desk d = new Desk();
         due.is("slips without rows", d.x.slips(0, 0), BAD);

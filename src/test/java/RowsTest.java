@@ -131,7 +131,11 @@ public final class RowsTest {
         due.is("no row came of it", x.count(1), 0);
         due.is("row beside the item", x.row(0, 0, 0, 2, NONE, NONE, NONE), 0);
         due.is("row behind the item", x.row(0, 0, 3, 9, NONE, NONE, NONE), 1);
+        x.put(0, 2, 0, '1');
+        due.is("the first is no letter", x.row(0, 0, 0, 2, NONE, NONE, NONE), NOT);
         x.put(0, 2, 0, 'a');
+        x.put(0, 2, 1, '1');
+        due.is("the last is no letter", x.row(0, 0, 0, 2, NONE, NONE, NONE), NOT);
         x.put(0, 2, 1, 'z');
         due.is("a and z are letters", x.row(0, 0, 0, 2, NONE, NONE, NONE), 2);
     }
@@ -142,6 +146,8 @@ public final class RowsTest {
         for (int row = 0; row < 36; row++) {
             due.is("row " + row + " of 36", d.x.row(row % 3, 0, 0, 2, NONE, NONE, NONE), row);
         }
+        due.is("count(2) of 36", d.x.count(2), 36);
+        due.is("count(4) of 36", d.x.count(4), 12);
         due.is("row 36", d.x.row(0, 0, 0, 2, NONE, NONE, NONE), FULL);
         due.is("NOT is ahead of FULL", d.x.row(0, 0, 0, 3, NONE, NONE, NONE), NOT);
         due.is("INDEX is ahead of FULL", d.x.row(0, 0, 0, 4, NONE, NONE, NONE), Desk.INDEX);

@@ -35,6 +35,18 @@ public final class SheetsTest {
         due.is("the sheet stays as it was", x.put(0, 0, 39, 7), 1);
         due.is("the sheet is new", x.sheet(0, 0, 40), 40);
         due.is("all items are 0", x.get(0, 0, 39), 0);
+        for (int s = 0; s < 4; s++) {
+            x.sheet(s, 0, 40);
+            x.put(s, 0, 0, s + 1);
+            x.put(s, 0, 39, s + 11);
+        }
+        x.sheet(1, 0, 40);
+        due.is("the first item is 0", x.get(1, 0, 0), 0);
+        due.is("the last item is 0", x.get(1, 0, 39), 0);
+        due.is("the sheet before stays", x.get(0, 0, 39), 11);
+        due.is("the sheet behind stays", x.get(2, 0, 0), 3);
+        due.is("the last sheet, all of it", x.get(3, 0, 39), 14);
+        x.sheet(0, 0, 40);
         x.put(0, 0, 5, 9);
         x.sheet(0, 2, 6);
         due.is("another type", x.get(0, 2, 5), 0);
@@ -307,5 +319,16 @@ public final class SheetsTest {
         due.is("digest() with NOT", x.digest(), told(x));
         d.x.line(-400);
         due.is("digest() by another line", x.digest(), told(x));
+        Desk e = new Desk();
+        for (int k = 0; k < 36; k++) {
+            e.row(k / 13, "name" + (char) ('a' + k % 7), 1800 + k, k % 8, k % 2);
+        }
+        e.sounds("a=1;b=2");
+        for (int k = 0; k < 40; k++) {
+            e.x.check(k % 36, (k * 5 + 1) % 36, k % 3 == 0);
+        }
+        due.is("digest() of 36 rows", e.x.digest(), told(e.x));
+        Naive naive = new Naive();
+        due.is("of nothing, by a second program", new OneSelf().digest(), naive.digest());
     }
 }
