@@ -206,7 +206,7 @@ public final class LinksTest {
         Desk d = new Desk();
         d.x.line(20);
         for (int k = 0; k < 10; k++) {
-            d.row(0, ("" + (char) ('a' + k)).repeat(6));
+            d.row(0, ("" + (char) ('a' + (k == 1 ? 0 : k))).repeat(6));
         }
         d.row(1, "aaaaaa");
         d.row(1, "cccccc");
@@ -497,5 +497,12 @@ public final class LinksTest {
         due.is("of one taken back", d.x.cut(0, 5), NOT);
         d.x.asOf(0);
         due.is("of twelve as of day 0", d.x.cut(5, 0), 11);
+        Desk e = new Desk();
+        e.x.line(20);
+        for (int k = 0; k < 36; k++) {
+            e.row(k % 3, ("" + (char) ('a' + k / 12)).repeat(5));
+        }
+        due.is("cut of the last of 36 rows", e.x.cut(24, 35), 11);
+        due.is("cut of the first of 36 rows", e.x.cut(11, 0), 11);
     }
 }

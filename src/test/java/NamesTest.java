@@ -161,6 +161,12 @@ public final class NamesTest {
             d.row(0, (String) p[0]);
             due.is("slips of " + p[1] + ", " + p[0] + ", told in that order", d.x.slips(1, 2), (Integer) p[2]);
         }
+        Desk neighbours = new Desk();
+        neighbours.row(0, "xy");
+        neighbours.row(0, "qqqqqqqqqy");
+        neighbours.row(0, "x");
+        due.is("the letters of another row do not count", neighbours.x.slips(0, 2), 1);
+        due.is("the letters of another row do not count, back", neighbours.x.slips(2, 0), 1);
         Desk d = new Desk();
         due.is("slips without rows", d.x.slips(0, 0), BAD);
         d.row(0, "a");
