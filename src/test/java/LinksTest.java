@@ -218,6 +218,10 @@ public final class LinksTest {
         d.row(1, "jjjjjj");
         due.is("the last row's mate", d.x.mate(9, 1), 12);
         due.is("the last row's row", d.x.mate(12, 0), 9);
+        d.row(1, "zzzzzz");
+        due.is("a row without links beside it", d.x.mate(9, 1), 12);
+        due.is("a row whose like was laid before", d.x.mate(1, 1), NONE);
+        due.is("the sum", d.x.laid(0, 1, 1), 3);
     }
 
     private static void laidRefused() {
