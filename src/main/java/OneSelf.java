@@ -547,7 +547,7 @@ public final class OneSelf {
 
     /** Four rows of items, and the latest FINDING. */
     private static final class Sheets {
-        static final int ITEMS = 40;
+        private static final int ITEMS = 40;
         private static final int SHEETS = 4, TYPES = 3, LOST = -1;
         private static final int BYTE_TYPE = 0, SHORT_TYPE = 1;
 
@@ -785,7 +785,7 @@ public final class OneSelf {
 
     /** The text of SOUNDS, and THE SOUND of each name by it. */
     private static final class Sounds {
-        static final int BYTES = 80;
+        private static final int BYTES = 80;
         private static final int ALPHABET = 26;
         private static final int GROUP = 0, LETTER = 1, FIGURE = 2, END = 3;
 
