@@ -17,33 +17,6 @@ public final class ChecksTest {
         due.end();
     }
 
-    /** Groups of rows of like names: each group of n has n (n - 1) / 2 links, and there are no others. */
-    private static Desk groups(int... sizes) {
-        Desk d = new Desk();
-        d.x.line(20);
-        char letter = 'a';
-        for (int size : sizes) {
-            for (int k = 0; k < size; k++) {
-                d.row(k % 3, ("" + letter).repeat(5));
-            }
-            letter++;
-        }
-        return d;
-    }
-
-    /** So many links are checked, the first of them as not one person. */
-    private static void checkLinks(OneSelf x, int n, int wrong) {
-        int done = 0;
-        for (int a = 0; a < x.count(1) && done < n; a++) {
-            for (int b = a + 1; b < x.count(1) && done < n; b++) {
-                if (x.slips(a, b) == 0) {
-                    x.check(a, b, done >= wrong);
-                    done++;
-                }
-            }
-        }
-    }
-
     // Promise 28
     private static void check() {
         Desk d = new Desk();
@@ -70,7 +43,7 @@ public final class ChecksTest {
     }
 
     private static void checkFull() {
-        Desk d = groups(10);
+        Desk d = Desk.groups(10);
         int n = 0;
         for (int a = 0; a < 10; a++) {
             for (int b = a + 1; b < 10; b++) {
@@ -90,7 +63,7 @@ public final class ChecksTest {
 
     // Promise 29
     private static void checked() {
-        Desk d = groups(3, 2);
+        Desk d = Desk.groups(3, 2);
         for (int what = 0; what < 4; what++) {
             due.is("checked(" + what + ") of none", d.x.checked(what), 0);
         }
@@ -128,7 +101,7 @@ public final class ChecksTest {
 
     // Promise 30
     private static void bound() {
-        Desk d = groups(4);
+        Desk d = Desk.groups(4);
         boundIs("none checked", d, 0, 6);
         d.x.check(0, 1, true);
         boundIs("1 of 6, right", d, 0, 5);
@@ -156,42 +129,42 @@ public final class ChecksTest {
     }
 
     private static void boundAtAFortieth() {
-        Desk d = groups(9, 3, 2);
+        Desk d = Desk.groups(9, 3, 2);
         due.is("links()", d.x.links(), 40);
         d.x.check(0, 1, false);
         boundIs("1 of 40, wrong: one in forty", d, 1, 40);
         d.x.check(0, 1, true);
         boundIs("1 of 40, right", d, 0, 39);
-        checkLinks(d.x, 39, 0);
+        d.checkLinks(39, 0);
         boundIs("39 of 40, none wrong: one in forty", d, 0, 1);
-        d = groups(9, 3, 2);
-        checkLinks(d.x, 39, 39);
+        d = Desk.groups(9, 3, 2);
+        d.checkLinks(39, 39);
         boundIs("39 of 40, all wrong", d, 39, 40);
-        d = groups(9, 3, 2, 2);
+        d = Desk.groups(9, 3, 2, 2);
         due.is("links()", d.x.links(), 41);
         d.x.check(0, 1, false);
         boundIs("1 of 41, wrong: less than one in forty", d, 2, 41);
-        checkLinks(d.x, 40, 0);
+        d.checkLinks(40, 0);
         boundIs("40 of 41, none wrong: less than one in forty", d, 0, 0);
-        checkLinks(d.x, 40, 40);
+        d.checkLinks(40, 40);
         boundIs("40 of 41, all wrong", d, 41, 41);
     }
 
     private static void boundOfManyChecks() {
-        Desk d = groups(11, 3, 2, 2);
+        Desk d = Desk.groups(11, 3, 2, 2);
         due.is("links()", d.x.links(), 60);
         boundIs("none of 60", d, 0, 60);
-        checkLinks(d.x, 40, 0);
+        d.checkLinks(40, 0);
         boundIs("40 of 60, none wrong", d, 0, 3);
         for (int wrong = 0; wrong <= 30; wrong += 3) {
-            Desk e = groups(11, 3, 2, 2);
-            checkLinks(e.x, 30, wrong);
+            Desk e = Desk.groups(11, 3, 2, 2);
+            e.checkLinks(30, wrong);
             int[] ends = likely(60, 30, wrong);
             boundIs("30 of 60, wrong " + wrong, e, ends[0], ends[1]);
         }
         for (int n = 1; n <= 40; n++) {
-            Desk e = groups(11, 3, 2);
-            checkLinks(e.x, n, n / 3);
+            Desk e = Desk.groups(11, 3, 2);
+            e.checkLinks(n, n / 3);
             int[] ends = likely(59, n, n / 3);
             boundIs(n + " of 59, wrong " + n / 3, e, ends[0], ends[1]);
         }
@@ -237,7 +210,7 @@ public final class ChecksTest {
         d.row(0, "bbbb");
         d.x.check(0, 1, true);
         due.is("bound(0) with a checked pair that is no link", d.x.bound(0), NOT);
-        Desk e = groups(11, 3, 2, 2, 2);
+        Desk e = Desk.groups(11, 3, 2, 2, 2);
         due.is("links()", e.x.links(), 61);
         due.is("bound(0) of 61", e.x.bound(0), FULL);
         due.is("bound(1) of 61", e.x.bound(1), FULL);
@@ -282,9 +255,9 @@ public final class ChecksTest {
     }
 
     private static void learntHalves() {
-        Desk d = groups(6);
+        Desk d = Desk.groups(6);
         d.row(0, "zzzz");
-        checkLinks(d.x, 10, 0);
+        d.checkLinks(10, 0);
         d.x.check(0, 6, true);
         d.x.check(1, 6, true);
         // 12 pairs: 10 of level 0, 2 of level 3
@@ -296,8 +269,8 @@ public final class ChecksTest {
         due.is("4 of 17: 235.3", d.x.learnt(true, 0, 3), 235);
         due.is("11 of 17: 647.1", d.x.learnt(true, 0, 0), 647);
         due.is("1 of 17: 58.8", d.x.learnt(true, 0, 2), 59);
-        Desk e = groups(10);
-        checkLinks(e.x, 40, 40);
+        Desk e = Desk.groups(10);
+        e.checkLinks(40, 40);
         due.is("41 of 44: 931.8", e.x.learnt(false, 0, 0), 932);
         due.is("1 of 44: 22.7", e.x.learnt(false, 0, 3), 23);
     }

@@ -51,6 +51,33 @@ final class Desk {
         return name.toString();
     }
 
+    /** Groups of rows of like names: each group of n has n (n - 1) / 2 links, and there are no others. */
+    static Desk groups(int... sizes) {
+        Desk d = new Desk();
+        d.x.line(20);
+        char letter = 'a';
+        for (int size : sizes) {
+            for (int k = 0; k < size; k++) {
+                d.row(k % 3, ("" + letter).repeat(5));
+            }
+            letter++;
+        }
+        return d;
+    }
+
+    /** So many links within groups are checked, the first of them as not one person. */
+    void checkLinks(int n, int wrong) {
+        int done = 0;
+        for (int a = 0; a < x.count(1) && done < n; a++) {
+            for (int b = a + 1; b < x.count(1) && done < n; b++) {
+                if (x.slips(a, b) == 0) {
+                    x.check(a, b, done >= wrong);
+                    done++;
+                }
+            }
+        }
+    }
+
     /** Points so that only names count: 100 for one without slips, 60, 20 and -100 with more. */
     void namesAlone() {
         int[] points = {100, 60, 20, -100};
